@@ -1092,18 +1092,16 @@ public final class MouthFrames {
             return typed[place - 1] - '0';
         }
 
+        /** A third figure is left standing: nothing that may come next takes it, so it is the FAULT. */
         private int number() {
             int value = figure(0, 9);
             int start = place - 1;
-            boolean two = stands('0', '9');
-            if (two) {
+            if (stands('0', '9')) {
                 value = 10 * value + typed[place] - '0';
                 place++;
             }
             if (!within(value, 1, 12)) {
                 fail(start);
-            } else if (two && stands('0', '9')) {
-                fail(place);
             }
             return value;
         }
@@ -1115,7 +1113,7 @@ public final class MouthFrames {
         }
 
         private boolean stands(int low, int high) {
-            return place < length && within(typed[place], low, high);
+            return place < length && typed[place] >= low && typed[place] <= high;
         }
 
         private void fail(int where) {
