@@ -329,6 +329,14 @@ public final class LineBoundariesTest {
             for (int k = 0; k < 5; k++) t.due("told(11, " + k + ")", x.told(11, k), want[k]);
             for (int k : new int[] {-1, 5, MIN, MAX}) t.due("told(11, " + k + ")", x.told(11, k), BAD);
         });
+        t.holds("9", "Of a SOUND: 0 SIGN, 1 TIME, 2 START", () -> {
+            MouthFrames x = after("say a12,l12,b12,c12,d12,e12,f12,g12,h12,b12,c12,l1");
+            long[] first = {0, 12, 0};
+            long[] last = {11, 1, 132};
+            for (int k = 0; k < 3; k++) t.due("the first, " + k, x.sounds(0, k), first[k]);
+            for (int k = 0; k < 3; k++) t.due("the last, " + k, x.sounds(11, k), last[k]);
+            for (int k = 0; k < 3; k++) t.due("behind the last, " + k, x.sounds(12, k), BAD);
+        });
         t.holds("9", "3 its first FRAME, as LENT (of none: how many FRAMES those ahead of it have)", () -> {
             // of 0, 1, 5, 6, 14, 15: 0, 0, 1, 2, 4, 4
             MouthFrames x = after("say c1,b4,d1,b8,e1");

@@ -113,6 +113,16 @@ public final class SheetBoundariesTest {
             t.due("the answer", x.item(0, 3, 0, 2), 1);
             dueItems(x, 0, 3, 2, NOT, NOT, 7, NOT, NOT);
         });
+        t.holds("32", "BAD; NULL; CAST; INDEX.", () -> {
+            MouthFrames x = withWords();
+            put(x, 3, 3, 6);
+            for (int v : NO_SHEETS) t.due("sheet " + v, x.item(v, 3, 0, 0), BAD);
+            for (int v : NO_SHEETS) t.due("lane " + v, x.item(3, v, 0, 0), BAD);
+            t.due("nothing", x.item(2, 3, 0, 0), NULL);
+            t.due("another LANE", x.item(3, 2, 0, 0), CAST);
+            t.due("behind the last", x.item(3, 3, 1, 0), INDEX);
+            dueItems(x, 3, 3, 6);
+        });
         t.holds("32", "Item i of a SHEET, taken as a row of a LANE", () -> {
             MouthFrames x = withWords();
             put(x, 2, 1, 4, 5, 6);
@@ -195,6 +205,17 @@ public final class SheetBoundariesTest {
             t.due("12 SOUNDS in 12 items", x.film(0, 3, 0), 12);
             t.due("12 SOUNDS from 1", x.film(0, 3, 1), INDEX);
         });
+        t.holds("29", "BAD; NULL; CAST; INDEX", () -> {
+            MouthFrames x = withWords();
+            put(x, 0, 1, 6);
+            Sentences.text(x, "say b4");
+            for (int v : NO_SHEETS) t.due("sheet " + v, x.film(v, 1, 0), BAD);
+            for (int v : NO_SHEETS) t.due("lane " + v, x.film(0, v, 0), BAD);
+            t.due("nothing", x.film(1, 1, 0), NULL);
+            for (int lane : new int[] {0, 2, 3}) t.due("lane " + lane, x.film(0, lane, 0), CAST);
+            t.due("behind the last", x.film(0, 1, 1), INDEX);
+            dueItems(x, 0, 1, 6);
+        });
         t.holds("29", "INDEX (of none, too: i below 0, or above how many there are).", () -> {
             MouthFrames x = withWords();
             put(x, 0, 2, 7, 7);
@@ -229,6 +250,15 @@ public final class SheetBoundariesTest {
             dueItems(x, 0, 1, 0, 1, 2, 3, 3);
             t.due("all of the other one", x.copy(1, 0, 0, 2, 3), 3);
             dueItems(x, 0, 1, 0, 1, 3, 3, 7);
+        });
+        t.holds("33", "BAD; NULL (either)", () -> {
+            MouthFrames x = new MouthFrames();
+            x.sheet(0, 0, 2);
+            for (int v : NO_SHEETS) t.due("from " + v, x.copy(v, 0, 0, 0, 1), BAD);
+            for (int v : NO_SHEETS) t.due("to " + v, x.copy(0, 0, v, 0, 1), BAD);
+            t.due("from nothing", x.copy(3, 0, 0, 0, 1), NULL);
+            t.due("to nothing", x.copy(0, 0, 3, 0, 1), NULL);
+            t.due("from something", x.copy(0, 0, 0, 1, 1), 1);
         });
         t.holds("33", "NULL (either); CAST: of unlike LANES", () -> {
             MouthFrames x = new MouthFrames();

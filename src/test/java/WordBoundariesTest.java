@@ -101,6 +101,10 @@ public final class WordBoundariesTest {
     }
 
     private static void kindsOfTexts() {
+        t.holds("==== 3", "A TEXT is one of these, a NAME (letters a .. z in a row) first", () -> {
+            dueTexts("say a1", 1, "word 1:a", 1, "frame 1/1", 41, "window 0", 1, "", -20, "say", -23, "a1", -20, "1", -20, "zzz", -20);
+            dueTexts("say a1 word 1:a", -27, "window 0 window 1", -29, "frame 1/1 frame 2/1", -30, "word 1:a say b1", -29);
+        });
         t.holds("==== 3", "say, then SOUNDS with , between, one at least: a letter a .. l, a number (TIME) (as say a3,b12): that's THE LINE then", () -> {
             dueTexts("say a3,b12", 2, "say l1", 1, TWELVE, 12, "say", -23, "say ", -24, "say ,", -24, "say a1,", -27, "say a1,,b1", -27, "say a1b1", -26);
             dueTexts("say m1", -24, "say a:", -25, "say a/", -25, "say a", -25, "say a,b1", -25, "say 1", -24, "say a1;b1", -26, "say `1", -24, "say aa1", -25);
